@@ -91,7 +91,9 @@ public final class EveryChild {
         if (!inside || !within(dry, 1, 99) || !within(wet, 0, 99)) {
             return false;
         }
-        land.paint(y * WIDTH + x, w, h, dry, wet);
+        for (int line = y; line < y + h; line++) {
+            land.paint(line * WIDTH + x, line * WIDTH + x + w - 1, dry, wet);
+        }
         return true;
     }
 
@@ -541,14 +543,11 @@ public final class EveryChild {
             Arrays.fill(wet, 15);
         }
 
-        /** The box was looked at by the caller. */
-        void paint(int corner, int w, int h, int dryMinutes, int wetMinutes) {
-            for (int k = 0; k < w * h; k++) {
-                int cell = corner + k / w * WIDTH + k % w;
-                if (isCell(cell)) {
-                    dry[cell] = dryMinutes;
-                    wet[cell] = wetMinutes;
-                }
+        /** Cells of a line from one to another; the walks that were kept hold no longer. */
+        void paint(int from, int to, int dryMinutes, int wetMinutes) {
+            for (int cell = Math.max(from, 0); cell <= to && cell < CELLS; cell++) {
+                dry[cell] = dryMinutes;
+                wet[cell] = wetMinutes;
             }
             for (int k = 0; k < fresh.length; k++) {
                 fresh[k] = false;
@@ -648,6 +647,8 @@ public final class EveryChild {
         /** Four numbers a clause: label, where its condition begins, where its sum begins, where that ends. */
         private final int[] clauses = new int[4 * MOST_CLAUSES];
         private int clauseCount;
+        /** The labels that stand in it, as bits. */
+        private int labels;
 
         static int bytesOf(int number) {
             int found = 0;
@@ -676,6 +677,7 @@ public final class EveryChild {
             open = 0;
             size = 0;
             clauseCount = 0;
+            labels = 0;
             boolean more = true;
             for (int k = 0; k < MOST_CLAUSES && more; k++) {
                 readClause();
@@ -713,7 +715,9 @@ public final class EveryChild {
         }
 
         private void want(int sign) {
-            if (!took(sign)) {
+            if (peek() == sign) {
+                at++;
+            } else {
                 fail();
             }
         }
@@ -757,6 +761,7 @@ public final class EveryChild {
                 clauses[first + 2] = middle;
                 clauses[first + 3] = size;
                 clauseCount++;
+                labels |= 1 << label;
             }
         }
 
@@ -795,18 +800,14 @@ public final class EveryChild {
                 if (!begun) {
                     readSum();
                 }
-                readRelation();
-            }
-        }
-
-        private void readRelation() {
-            int sign = peek();
-            if (isRelation(sign)) {
-                at++;
-                readSum();
-                emit(SIGN + sign);
-            } else {
-                fail();
+                int sign = peek();
+                if (isRelation(sign)) {
+                    at++;
+                    readSum();
+                    emit(SIGN + sign);
+                } else {
+                    fail();
+                }
             }
         }
 
@@ -914,6 +915,7 @@ public final class EveryChild {
         private final int[] shire = new int[LAWS];
         private final int[] year = new int[LAWS];
         private final int[] told = new int[LAWS];
+        private final int[] labels = new int[LAWS];
         private final int[][] programs = new int[LAWS][];
         private final int[][] clauses = new int[LAWS][];
         private final int[] letters = new int[6];
@@ -938,6 +940,7 @@ public final class EveryChild {
             shire[size] = ofShire;
             year[size] = fromYear;
             told[size] = now;
+            labels[size] = tape.labels;
             programs[size] = Arrays.copyOf(tape.program, tape.size);
             clauses[size] = Arrays.copyOf(tape.clauses, 4 * tape.clauseCount);
             size++;
@@ -959,7 +962,8 @@ public final class EveryChild {
             int clause = NONE;
             int latest = 0;
             for (int law = 0; law < size; law++) {
-                if (told[law] > q || year[law] > inYear || year[law] < latest || !binds(law, ofShire, whose)) {
+                boolean speaks = told[law] <= q && (labels[law] >> label & 1) == 1 && binds(law, ofShire, whose);
+                if (!speaks || year[law] > inYear || year[law] < latest) {
                     continue;
                 }
                 int holding = clauseThatHolds(law, label);
@@ -969,10 +973,10 @@ public final class EveryChild {
                     latest = year[law];
                 }
             }
-            if (inForce == NONE) {
+            int[] found = inForce == NONE ? null : clauses[inForce];
+            if (found == null || !within(clause, 0, found.length - 4)) {
                 return within(label, 0, USUAL.length - 1) ? USUAL[label] : 0;
             }
-            int[] found = clauses[inForce];
             return run(programs[inForce], found[clause + 2], found[clause + 3]);
         }
 
@@ -1035,26 +1039,20 @@ public final class EveryChild {
         }
 
         private int letterAt(int number) {
-            return within(number, 0, letters.length - 1) ? letters[number] : 0;
+            return number >= 0 && number < letters.length ? letters[number] : 0;
         }
 
         /** Long numbers, for letters can be told as great as an int is. */
         private static int joined(int sign, long a, long b) {
             switch (sign) {
-                case '+': return bounded(a + b);
-                case '-': return bounded(a - b);
-                case '*': return bounded(a * b);
-                case '/': return b == 0 ? 0 : bounded(a / b);
                 case '=': return a == b ? 1 : 0;
                 case '<': return a < b ? 1 : 0;
                 case '>': return a > b ? 1 : 0;
                 case '&': return a != 0 && b != 0 ? 1 : 0;
                 case '|': return a != 0 || b != 0 ? 1 : 0;
-                default: return 0;
+                default: break;
             }
-        }
-
-        private static int bounded(long value) {
+            long value = sign == '+' ? a + b : sign == '-' ? a - b : sign == '*' ? a * b : b == 0 ? 0 : a / b;
             return value > LIMIT ? LIMIT : value < -LIMIT ? -LIMIT : (int) value;
         }
     }
@@ -1614,7 +1612,7 @@ public final class EveryChild {
         private int moveAlong(int end) {
             int moved = left[end];
             int school = end;
-            for (int step = 0; step < SCHOOLS && school >= 0; step++) {
+            for (int step = 0; step < SCHOOLS && school >= 0 && schoolFrom[school] >= 0; step++) {
                 int village = schoolFrom[school];
                 int before = villageFrom[village];
                 moved = Math.min(moved, before < 0 ? over[village] : seat[village * SCHOOLS + before]);
@@ -1622,7 +1620,7 @@ public final class EveryChild {
             }
             left[end] -= moved;
             school = end;
-            for (int step = 0; step < SCHOOLS && school >= 0; step++) {
+            for (int step = 0; step < SCHOOLS && school >= 0 && schoolFrom[school] >= 0; step++) {
                 int village = schoolFrom[school];
                 int before = villageFrom[village];
                 seat[village * SCHOOLS + school] += moved;
