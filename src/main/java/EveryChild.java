@@ -1956,7 +1956,7 @@ public final class EveryChild {
          * and all that is owed for sorts that one of the other lenders may pay for.
          */
         int mostPaid() {
-            int least = Integer.MAX_VALUE;
+            int least = NONE;
             for (int cut = 0; cut < 1 << lenders; cut++) {
                 int through = 0;
                 for (int lender = 0; lender < lenders; lender++) {
@@ -1965,7 +1965,7 @@ public final class EveryChild {
                 for (int sort = 0; sort < SORTS; sort++) {
                     through += (payers[sort] & ~cut) != 0 ? owed[sort] : 0;
                 }
-                least = Math.min(least, through);
+                least = least == NONE ? through : Math.min(least, through);
             }
             return least;
         }
