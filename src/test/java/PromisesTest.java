@@ -398,7 +398,7 @@ public final class PromisesTest {
             due("why", a[5], x.why(a[0], a[1], a[2], 'w', a[3], 0, 0, 0));
         }
         due("each label by itself", 0, x.why(1, 2, 1, 'h', 0, 0, 0, 0));
-        int[][] none = {{4, 0, 0, 'w'}, {-1, 0, 0, 'w'}, {0, 12, 0, 'w'}, {0, -1, 0, 'w'}, {0, 0, 2, 'w'}, {0, 0, -1, 'w'},
+        int[][] none = {{4, 0, 0, 'w'}, {-1, 0, 0, 'w'}, {0, 12, 0, 'w'}, {0, -1, 0, 'w'}, {1, 2, 2, 'w'}, {0, 0, -1, 'w'},
             {0, 0, 0, 'q'}, {0, 0, 0, 0}, {0, 0, 0, 'w' + 256}};
         for (int[] a : none) {
             promise = 17;
@@ -602,6 +602,19 @@ public final class PromisesTest {
         due("all move over", 57, chain.most(5, 5));
         chain.count(3, 0, 10, 5);
         due("no room for five", 60, chain.most(5, 5));
+        EveryChild tongues = new EveryChild();
+        supply(tongues);
+        law(tongues, NONE, 0, "h:1;f:1");
+        int[][] villages = {{0, 0, 10}, {0, 1, 3}, {0, 1, 3}, {1, 3, 8}, {1, 4, 8}};
+        int[][] schools = {{0, 6, 3}, {0, 10, 9}, {0, 8, 1}, {1, 8, 24}};
+        for (int v = 0; v < 5; v++) {
+            tongues.village(villages[v][0], 0, villages[v][1]);
+            tongues.count(v, 0, villages[v][2], 0);
+        }
+        for (int[] s : schools) tongues.school(s[0], 0, s[1], 1, s[2]);
+        tongues.weeks(10);
+        due("seated one by one", 18, tongues.seated(0, NONE, 10, 10) + tongues.seated(3, 3, 10, 10));
+        due("those that moved in move on", 32, tongues.most(10, 10));
     }
 
     private static void sites() {
@@ -726,6 +739,12 @@ public final class PromisesTest {
         due("one for it", 0, x.parts(NONE, 0));
         due("three of it", 3, x.parts(0, 1));
         due("all of it", 6, x.parts(0, 2));
+        EveryChild single = new EveryChild();
+        single.maker(4, 1, 1, 1);
+        single.lorry(30);
+        single.school(0, 0, 1, 1, 1);
+        single.weeks(1);
+        due("a single part", 2, single.parts(0, 4));
         EveryChild y = new EveryChild();
         y.maker(0, 50, 1, 600);
         y.maker(1, 50, 1, 600);
@@ -749,7 +768,7 @@ public final class PromisesTest {
         promise = 32;
         EveryChild x = new EveryChild();
         supply(x);
-        law(x, NONE, 0, "v:l=1&y=0?n;v:50");
+        law(x, NONE, 0, "v:l=1&y=0&x=0&r=0?n;v:50");
         x.village(0, 0, 1);
         x.village(0, 1, 0);
         x.count(0, 0, 30, 70);
@@ -771,6 +790,7 @@ public final class PromisesTest {
         no("much", x.give(0, 0, 0));
         no("much", x.give(0, 0, 1001));
         promise = 34;
+        x.worth(0, 0, 0, 't', 1, 2, 3, 4);
         due("lowest kind", 0, x.lack(0));
         yes("give", x.give(0, 0, 99));
         yes("give, not for this school", x.give(0, 1, 100));
@@ -1036,6 +1056,14 @@ public final class PromisesTest {
         due("treated later", 184, x.stay(1, 3, 1));
         due("treated by then, and nothing changes any more", 0, x.stay(1, 4, 1));
         due("another shire", UNTOLD, x.stay(0, 3, 1));
+        for (int v = 6; v < 10; v++) {
+            x.village(0, 2, 0);
+            x.count(v, 0, v, 10);
+            x.count(v, 1, 10, v < 8 ? 10 : 30);
+            if (v < 8) x.treat(v, 1);
+        }
+        // 125 and 89, 107; -194 and -223, -208
+        due("in year 1", 107 + 208, x.stay(2, 1, 1));
         due("shire", UNTOLD, x.stay(4, 3, 1));
         due("shire", UNTOLD, x.stay(-1, 3, 1));
         due("year", UNTOLD, x.stay(1, 0, 1));
