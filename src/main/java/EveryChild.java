@@ -463,7 +463,7 @@ public final class EveryChild {
             case 0: return now;
             case 1: return folk.size;
             case 2: return schools.size;
-            case 3: return schools.standing();
+            case 3: return schools.builtInAll();
             case 4: return code.size;
             case 5: return folk.counts;
             case 6: return sites.size;
@@ -570,15 +570,13 @@ public final class EveryChild {
 
         /** The least minutes from a cell to each cell, FAR where there is no way. */
         int[] rowFrom(int cell, boolean inRain) {
-            int number = isCell(cell) ? cell : 0;
-            if (inRain) {
-                number += CELLS;
-            }
+            int from = isCell(cell) ? cell : 0;
+            int number = inRain ? CELLS + from : from;
             if (rows[number] == null) {
                 rows[number] = new int[CELLS];
             }
             if (!fresh[number]) {
-                spread(cell, inRain ? wet : dry, rows[number]);
+                spread(from, inRain ? wet : dry, rows[number]);
                 fresh[number] = true;
             }
             return rows[number];
@@ -587,9 +585,7 @@ public final class EveryChild {
         /** A way has fewer steps than there are cells, and each round finds at least one step more of it. */
         private static void spread(int from, int[] minutes, int[] row) {
             Arrays.fill(row, FAR);
-            if (isCell(from)) {
-                row[from] = 0;
-            }
+            row[from] = 0;
             boolean moved = true;
             for (int round = 0; round < CELLS && moved; round++) {
                 moved = false;
@@ -1273,7 +1269,7 @@ public final class EveryChild {
             return Math.max(0, code.worthOf(HEADS, shire[school], week / YEAR, q, Code.BOTH));
         }
 
-        int standing() {
+        int builtInAll() {
             int sum = 0;
             for (int school = 0; school < size; school++) {
                 if (built[school] != NONE) {
@@ -1510,7 +1506,7 @@ public final class EveryChild {
 
         /** Each chain seats at least one child more, so that there are fewer chains than children. */
         int seatMore() {
-            int sum = folkInAll() - standing();
+            int sum = seatedInAll();
             for (int turn = 0; turn < 100000; turn++) {
                 int school = endOfChain();
                 if (school == NONE) {
@@ -1537,10 +1533,10 @@ public final class EveryChild {
             return sum;
         }
 
-        private int folkInAll() {
+        private int seatedInAll() {
             int sum = 0;
             for (int village = 0; village < folk.size; village++) {
-                sum += over[village] + seatedOf(village);
+                sum += seatedOf(village);
             }
             return sum;
         }
