@@ -257,6 +257,9 @@ final class SiteBoundaries extends Sentences {
             due(NONE, x.plan(7, 7, 0));
             // of other sites than these none is built
             due(NONE, x.plan(1, 2, 0));
+            due(NONE, x.plan(2, 1, 0));
+            due(NONE, x.plan(14, 1, 0));
+            due(NONE, x.plan(5, 6, 0));
             due(2, x.plan(1, 1, 0));
             x.row(0x09000000, 0);
             due(2, x.plan(15, 1, 0));
